@@ -23,6 +23,7 @@ public final class MownMaze {
     private final boolean[] kept = new boolean[IMAGES];
     private final Sheet[] sheets = new Sheet[SHEETS];
     private final Seen seen = new Seen();
+    private final Best best = new Best();
     private int fault = 0;
     private int torn = 0;
 
@@ -254,36 +255,26 @@ public final class MownMaze {
         if (!isAhead(n) || !isBit(what)) {
             return BAD;
         }
-        int best = outsAsItIs(n);
-        int which = NONE;
+        best.above(outsAsItIs(n));
         for (int h = 0; h < HEDGES; h++) {
             trial.become(maze);
             trial.hedges = Plots.changed(trial.hedges, h);
-            int outs = trial.outsBehind(n);
-            if (outs > best) {
-                best = outs;
-                which = h;
-            }
+            best.offer(h, trial.outsBehind(n));
         }
-        return bestOf(which, best, what);
+        return best.told(what);
     }
 
     public int door(int n, int what) {
         if (!isAhead(n) || !isBit(what)) {
             return BAD;
         }
-        int best = -1;
-        int which = NONE;
+        best.above(-1);
         for (int c = 0; c < PLOTS; c++) {
             trial.become(maze);
             trial.gate = c;
-            int outs = trial.outsBehind(n);
-            if (outs > best) {
-                best = outs;
-                which = c;
-            }
+            best.offer(c, trial.outsBehind(n));
         }
-        return bestOf(which, best, what);
+        return best.told(what);
     }
 
     public int food(int i) {
@@ -303,55 +294,40 @@ public final class MownMaze {
         if (!isAhead(n) || !isBit(what)) {
             return BAD;
         }
-        int best = outsAsItIs(n);
-        int which = NONE;
+        best.above(outsAsItIs(n));
         for (int g = 0; g < maze.gardeners; g++) {
             trial.become(maze);
-            int outs = trial.outsWithout(g, n);
-            if (outs > best) {
-                best = outs;
-                which = g;
-            }
+            best.offer(g, trial.outsWithout(g, n));
         }
-        return bestOf(which, best, what);
+        return best.told(what);
     }
 
     public int swap(int n, int what) {
         if (!isAhead(n) || !isBit(what)) {
             return BAD;
         }
-        int best = outsAsItIs(n);
-        int which = NONE;
+        best.above(outsAsItIs(n));
         for (int a = 0; a < maze.gardeners; a++) {
             for (int b = a + 1; b < maze.gardeners; b++) {
                 trial.become(maze);
                 trial.exchange(a, b);
-                int outs = trial.outsBehind(n);
-                if (outs > best) {
-                    best = outs;
-                    which = 10 * a + b;
-                }
+                best.offer(10 * a + b, trial.outsBehind(n));
             }
         }
-        return bestOf(which, best, what);
+        return best.told(what);
     }
 
     public int kind(int g, int n, int what) {
         if (!isGardener(g) || !isAhead(n) || !isBit(what)) {
             return BAD;
         }
-        int best = -1;
-        int which = NONE;
+        best.above(-1);
         for (int kind = 0; kind < KINDS; kind++) {
             trial.become(maze);
             trial.kind[g] = kind;
-            int outs = trial.outsBehind(n);
-            if (outs > best) {
-                best = outs;
-                which = kind;
-            }
+            best.offer(kind, trial.outsBehind(n));
         }
-        return bestOf(which, best, what);
+        return best.told(what);
     }
 
     // ---- rain
@@ -428,19 +404,19 @@ public final class MownMaze {
                 all++;
             }
         }
-        int best = all;
+        int fewest = all;
         int which = NONE;
         for (int d = 0; d <= DAYS_SEEN; d++) {
             for (int h = 0; h < HEDGES; h++) {
                 int standing = seen.votes[d * HEDGES + h];
                 int worst = Math.max(standing, all - standing);
-                if (worst < best) {
-                    best = worst;
+                if (worst < fewest) {
+                    fewest = worst;
                     which = 100 * d + h;
                 }
             }
         }
-        return bestOf(which, best, what);
+        return which == NONE || what == 0 ? which : fewest;
     }
 
     // ---- by a seed
@@ -604,10 +580,6 @@ public final class MownMaze {
 
     // ---- helpers
 
-    private static int bestOf(int which, int best, int what) {
-        return which == NONE || what == 0 ? which : best;
-    }
-
     private static int sumOf(int[] row, int size) {
         int sum = 0;
         for (int i = 0; i < size && i < row.length; i++) {
@@ -639,7 +611,7 @@ public final class MownMaze {
 
     private long chance(int v, int who, int n, int what) {
         rainy[0].become(maze);
-        long part = weightOfOuts(0, n, v, who);
+        long part = weightOfOuts(rainy, 0, n, v, who);
         long whole = 1;
         for (int d = 0; d < n; d++) {
             whole *= TENTHS;
@@ -652,21 +624,21 @@ public final class MownMaze {
     }
 
     // How many of `who` are OUT, over all weathers of the days left, each weighed in tenths a day.
-    private long weightOfOuts(int day, int n, int v, int who) {
-        if (day >= n || day >= DAYS_RAIN) {
-            return Integer.bitCount(rainy[day].whoIs(OUT) & who);
+    private static long weightOfOuts(Maze[] days, int day, int n, int v, int who) {
+        if (day >= n || day + 1 >= days.length) {
+            return Integer.bitCount(days[day].whoIs(OUT) & who);
         }
-        Maze next = rainy[day + 1];
+        Maze next = days[day + 1];
         long sum = 0;
         if (v > 0) {
-            next.become(rainy[day]);
+            next.become(days[day]);
             next.passDayOfGuests();
-            sum += v * weightOfOuts(day + 1, n, v, who);
+            sum += v * weightOfOuts(days, day + 1, n, v, who);
         }
         if (v < TENTHS) {
-            next.become(rainy[day]);
+            next.become(days[day]);
             next.passDays(1);
-            sum += (TENTHS - v) * weightOfOuts(day + 1, n, v, who);
+            sum += (TENTHS - v) * weightOfOuts(days, day + 1, n, v, who);
         }
         return sum;
     }
@@ -932,6 +904,28 @@ public final class MownMaze {
                 }
             }
             return true;
+        }
+    }
+
+    /** The first of those by which most guests are OUT, more than a bar. */
+    private static final class Best {
+        int which = NONE;
+        int outs = 0;
+
+        void above(int bar) {
+            which = NONE;
+            outs = bar;
+        }
+
+        void offer(int candidate, int itsOuts) {
+            if (itsOuts > outs) {
+                which = candidate;
+                outs = itsOuts;
+            }
+        }
+
+        int told(int what) {
+            return which == NONE || what == 0 ? which : outs;
         }
     }
 

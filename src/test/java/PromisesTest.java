@@ -70,6 +70,12 @@ public final class PromisesTest {
         due("tape", x.count(2), 7);
         due("text", x.text(), 1);
         due("gate", x.rule(3), 5);
+        Check.feed(x, "gates");
+        x.end(4);
+        due("what end() took is no part of a name", x.text(), -14);
+        Check.feed(x, "gate 12");
+        x.end(6);
+        due("what end() took is no part of a number", x.text(), -16);
     }
 
     private static void promise4TextTaken() {
@@ -119,6 +125,12 @@ public final class PromisesTest {
         refused("gate 1\t;", 6, 1);
         refused("house 1;", 0, 2);
         refused("gates 1;", 0, 2);
+        refused("fate 1;", 0, 2);
+        refused("z", 0, 2);
+        refused("`", 0, 1);
+        refused("{", 0, 1);
+        refused("/", 0, 1);
+        refused(":", 0, 1);
         refused("gat 1;", 0, 2);
         refused("gate1 ;gateway 1;", 7, 2);
         refused("  7 gate;", 2, 2);
@@ -279,6 +291,7 @@ public final class PromisesTest {
         due("left", x.rule(0), 1);
         due("leave 2", x.leave(2), BAD);
         due("gardener 1", x.gardener(1, 0), BAD);
+        due("leave all", x.leave(1), 1);
         due("leave 0", x.leave(0), 1);
         due("come 16", x.come(16, 0), BAD);
         due("come with 61", x.come(0, 61), BAD);
@@ -302,6 +315,7 @@ public final class PromisesTest {
         due("he stays lost", x.guest(1, 2), 2);
         due("move the lost", x.move(1, 3), 5);
         due("he is in", x.guest(1, 2), 0);
+        due("he is there", x.guest(1, 0), 3);
         due("move the out", x.move(0, 15), 0);
         due("he is in too", x.guest(0, 2), 0);
         due("his food", x.guest(0, 1), 0);
@@ -556,6 +570,12 @@ public final class PromisesTest {
         due("swap the last two", three.swap(2, 0), 12);
         due("swap behind 0", three.swap(0, 0), NONE);
         due("nothing was changed", three.gardener(1, 0), 2);
+        // Each has to come to the other's place: 1 to 2 is opened first, then 0 to 1.
+        MownMaze both = Check.told("wide 23 0; wide 22 0; hedge 0 1; guest 2 9;");
+        due("swap, both count", both.swap(2, 0), 1);
+        // The second opens 1 to 2, then by his pace 0 to 1; as it is, he has but one day of three.
+        MownMaze paced = Check.told("wide 0 0; wide 22 1; hedge 0 12; guest 1 9;");
+        due("swap, the pace goes along", paced.swap(3, 0), 1);
         due("swap of one", Check.told("close 0 0; guest 1 1;").swap(1, 0), NONE);
         due("swap -1", x.swap(-1, 0), BAD);
         due("swap 61", x.swap(61, 0), BAD);
@@ -587,6 +607,7 @@ public final class PromisesTest {
         MownMaze x = Check.told("close 0 0; guest 1 9;");
         fraction(x, 3, 1, 3, 10);
         fraction(x, 5, 1, 1, 2);
+        fraction(x, 1, 1, 1, 10);
         fraction(x, 0, 1, 0, 1);
         fraction(x, 10, 1, 1, 1);
         fraction(x, 4, 0, 0, 1);
@@ -642,6 +663,7 @@ public final class PromisesTest {
         due("forget -1", x.forget(-1), BAD);
         due("forget 2", x.forget(2), 6);
         due("seen", x.count(0), 2);
+        due("forget none", x.forget(2), 2);
         due("see -1", x.see(-1, 0, 0), BAD);
         due("see 24", x.see(0, 24, 0), BAD);
         due("see h -1", x.see(0, -1, 0), BAD);
@@ -668,6 +690,9 @@ public final class PromisesTest {
         due("wide alone", x.kinds(0), 8);
         x.days(1);
         due("seen is from now on: 3 stands", x.tastes(0), 8);
+        MownMaze four = Check.told("wide 0 0; wide 0 0; wide 0 0; plain 0 1;");
+        four.see(20, 0, 1);
+        due("the last day to see", four.tastes(3), 0xF00001);
         due("kinds 1", x.kinds(1), BAD);
         due("kinds -1", x.kinds(-1), BAD);
         due("tastes 1", x.tastes(1), BAD);
@@ -678,6 +703,13 @@ public final class PromisesTest {
         MownMaze x = Check.told("plain 3 0;");
         due("ask", x.ask(0, 0), 100);
         due("ask, how many", x.ask(0, 1), 23);
+        x.see(1, 0, 0);
+        due("ask at the next hedge", x.ask(0, 0), 101);
+        due("ask at the next hedge, how many", x.ask(0, 1), 22);
+        x.forget(0);
+        MownMaze four = Check.told("wide 0 0; wide 0 0; wide 0 0; plain 0 1;");
+        due("ask on the last day", four.ask(3, 0), 2000);
+        due("ask on the last day, how many", four.ask(3, 1), 19);
         x.alter(0, 2, 1);
         due("ask in the middle", x.ask(0, 0), 1200);
         due("ask in the middle, how many", x.ask(0, 1), 12);
@@ -712,13 +744,23 @@ public final class PromisesTest {
         MownMaze empty = new MownMaze();
         due("drift of nobody", empty.drift(1, 1, 0), STATE);
         due("drift of nobody, wrong", empty.drift(1, 0, 0), BAD);
-        long seed = -3;
-        int hedges = 1 << 14;
-        for (int d = 0; d < 60; d++) {
+        x.move(0, 2);
+        due("a day for each", x.drift(1, 1, 0), 0);
+        for (int seed : new int[] {0, 1, -3, 77, 123456789, Integer.MIN_VALUE, Integer.MAX_VALUE}) {
+            for (int n : new int[] {1, 2, 7, 59, 60}) {
+                due("hedges by seed " + seed + ", days " + n, x.drift(seed, n, 1), drifted(1 << 14, seed, n));
+            }
+        }
+    }
+
+    private static int drifted(int from, int first, int n) {
+        long seed = first;
+        int hedges = from;
+        for (int d = 0; d < n; d++) {
             seed = (seed * 1103515245L + 12345L) & 0xFFFFFFFFL;
             hedges ^= 1 << (int) ((seed >> 16 & 0x7FFF) % 24);
         }
-        due("hedges of 60", x.drift(-3, 60, 1), Integer.bitCount(hedges));
+        return Integer.bitCount(hedges);
     }
 
     private static void promises40And41() {
@@ -783,6 +825,14 @@ public final class PromisesTest {
         due("sheet of none", x.sheet(0, 2, 0), 1);
         due("no cells", x.count(3), 0);
         due("lay on none", x.lay(0, 0, 1), -12);
+        x.sheet(3, 0, 2);
+        x.lay(3, 0, 9);
+        x.lay(3, 1, 1);
+        x.sheet(3, 0, 2);
+        x.grow(0, 1);
+        due("new cells are 0", x.read(3, 0, 0, 1), 1);
+        due("hedge 0 was told by them", x.hedge(0), 0);
+        due("hedge 9 was not", x.hedge(9), 0);
     }
 
     private static void promise43LowestBits() {
