@@ -483,6 +483,9 @@ public final class PromisesTest {
         MownMaze three = Check.told("close 0 0; close 1 0; close 2 0;");
         three.days(3);
         due("again of three", three.again(), 3);
+        MownMaze four = Check.told("close 0 0; close 1 0; close 2 0; close 3 0;");
+        four.days(4);
+        due("again of four", four.again(), 4);
         MownMaze long48 = Check.told("wide 0 1; wide 0 1;");
         long48.days(1);
         due("again behind 48", long48.again(), 48);
@@ -576,6 +579,9 @@ public final class PromisesTest {
         // The second opens 1 to 2, then by his pace 0 to 1; as it is, he has but one day of three.
         MownMaze paced = Check.told("wide 0 0; wide 22 1; hedge 0 12; guest 1 9;");
         due("swap, the pace goes along", paced.swap(3, 0), 1);
+        MownMaze alone = Check.told("close 0 0; wide 0 0; guest 1 1;");
+        alone.leave(1);
+        due("not with one who has left", alone.swap(1, 0), NONE);
         due("swap of one", Check.told("close 0 0; guest 1 1;").swap(1, 0), NONE);
         due("swap -1", x.swap(-1, 0), BAD);
         due("swap 61", x.swap(61, 0), BAD);
@@ -745,6 +751,7 @@ public final class PromisesTest {
         due("drift of nobody", empty.drift(1, 1, 0), STATE);
         due("drift of nobody, wrong", empty.drift(1, 0, 0), BAD);
         x.move(0, 2);
+        x.bread(0, 9);
         due("a day for each", x.drift(1, 1, 0), 0);
         for (int seed : new int[] {0, 1, -3, 77, 123456789, Integer.MIN_VALUE, Integer.MAX_VALUE}) {
             for (int n : new int[] {1, 2, 7, 59, 60}) {
