@@ -3,6 +3,7 @@ import java.lang.reflect.Constructor;
 import java.lang.reflect.Field;
 import java.lang.reflect.Method;
 import java.lang.reflect.Modifier;
+import java.nio.file.DirectoryStream;
 import java.nio.file.Files;
 import java.nio.file.Path;
 import java.util.ArrayList;
@@ -84,6 +85,33 @@ public final class FormTest {
         }
         CHECK.isTrue("no package", !code.contains("package "));
         methodsAreShort(code.split("\\n"));
+        objectsAreMadeOnce(code);
+    }
+
+    /** All rows are made with the object, so no number of calls fills the room: fields and the constructor alone say new. */
+    private static void objectsAreMadeOnce(String code) {
+        int from = code.indexOf("public MownMaze() {");
+        int to = code.indexOf("\n    }\n", from);
+        CHECK.isTrue("the constructor", from >= 0 && to > from);
+        for (String line : (code.substring(0, from) + code.substring(to)).split("\\n")) {
+            if (Pattern.compile("\\bnew\\b").matcher(line).find()) {
+                CHECK.isTrue("made once: " + line.trim(), line.matches(" +(private )?final \\S+ \\w+ = new [^;]*;"));
+            }
+        }
+    }
+
+    /** Each promise has tests of its bounds, named by it. */
+    private static void everyPromiseHasItsBounds() throws IOException {
+        StringBuilder tests = new StringBuilder();
+        try (DirectoryStream<Path> files = Files.newDirectoryStream(Path.of("src/test/java"), "Bounds*Test.java")) {
+            for (Path file : files) {
+                tests.append(Files.readString(file));
+            }
+        }
+        for (int n = 1; n <= 46; n++) {
+            boolean named = Pattern.compile("private static void promise" + n + "[A-Z]\\w*\\(\\)").matcher(tests).find();
+            CHECK.isTrue("bounds of promise " + n, named);
+        }
     }
 
     /** By the indent: a method of a class, or of a class inside it, opens at four or at eight blanks. */
@@ -106,6 +134,7 @@ public final class FormTest {
     public static void main(String[] args) throws IOException, IllegalAccessException {
         face();
         source();
+        everyPromiseHasItsBounds();
         CHECK.finish();
     }
 }
