@@ -8,7 +8,9 @@ import java.nio.file.Files;
 import java.nio.file.Path;
 import java.util.ArrayList;
 import java.util.List;
+import java.util.Map;
 import java.util.Set;
+import java.util.TreeMap;
 import java.util.TreeSet;
 import java.util.regex.Matcher;
 import java.util.regex.Pattern;
@@ -85,6 +87,7 @@ public final class FormTest {
         }
         CHECK.isTrue("no package", !code.contains("package "));
         methodsAreShort(code.split("\\n"));
+        callsGoEightDeep(code.split("\\n"));
         objectsAreMadeOnce(code);
     }
 
@@ -131,9 +134,56 @@ public final class FormTest {
         }
     }
 
+    /** By names alone, as if each method called every method that bears a name which it calls: so rather too deep. */
+    private static void callsGoEightDeep(String[] lines) {
+        Map<String, String> bodies = new TreeMap<>();
+        for (int i = 0; i < lines.length; i++) {
+            Matcher head = Pattern.compile("( {4}| {8})[a-zA-Z].*\\b(\\w+)\\([^()]*\\) \\{").matcher(lines[i]);
+            if (head.matches()) {
+                StringBuilder body = new StringBuilder();
+                for (int at = i + 1; at < lines.length && !lines[at].equals(head.group(1) + "}"); at++) {
+                    body.append(lines[at]).append('\n');
+                }
+                bodies.merge(head.group(2), body.toString(), String::concat);
+            }
+        }
+        CHECK.isTrue("methods are found: " + bodies.keySet(), bodies.size() > 46 && bodies.containsKey("weightOfOuts"));
+        for (String name : bodies.keySet()) {
+            CHECK.isTrue("eight deep at most: " + name + " goes " + depth(name, bodies, 0), depth(name, bodies, 0) <= 8);
+        }
+    }
+
+    /** How many calls stand open at once; what calls itself is counted once, and who goes round never ends below 20. */
+    private static int depth(String name, Map<String, String> bodies, int above) {
+        int deepest = 0;
+        Matcher calls = Pattern.compile("\\b(\\w+)\\(").matcher(bodies.get(name));
+        while (calls.find() && above < 20) {
+            if (bodies.containsKey(calls.group(1)) && !calls.group(1).equals(name)) {
+                deepest = Math.max(deepest, depth(calls.group(1), bodies, above + 1));
+            }
+        }
+        return deepest + 1;
+    }
+
+    /** Constants stand beside the fields that are counted. */
+    private static void classesAreSmall() {
+        List<Class<?>> all = new ArrayList<>(List.of(MownMaze.class.getDeclaredClasses()));
+        all.add(MownMaze.class);
+        CHECK.isTrue("twelve classes at most", all.size() <= 12);
+        for (Class<?> one : all) {
+            int fields = 0;
+            for (Field f : one.getDeclaredFields()) {
+                fields += Modifier.isStatic(f.getModifiers()) ? 0 : 1;
+                CHECK.isTrue("a static number: " + f, !Modifier.isStatic(f.getModifiers()) || f.getType() == int.class);
+            }
+            CHECK.isTrue("twenty fields at most: " + one, fields <= 20);
+        }
+    }
+
     public static void main(String[] args) throws IOException, IllegalAccessException {
         face();
         source();
+        classesAreSmall();
         everyPromiseHasItsBounds();
         CHECK.finish();
     }
